@@ -988,7 +988,7 @@ public final class GravyBoats {
             table.putBoat(FULL, boat, full - much);
             if (table.ofSeat(PIRATE, seat) == 1) {
                 int love = table.ofSeat(LOVE, seat);
-                table.putSeat(LOVE, seat, love - Integer.signum(love));
+                table.putSeat(LOVE, seat, love > 0 ? love - 1 : Math.min(0, love + 1));
             } else {
                 table.drunk += much;
             }
@@ -1153,31 +1153,27 @@ public final class GravyBoats {
         }
 
         private void readSingle(int open) {
-            boolean negated = now() == W_NOT;
-            if (negated || now() == '(') {
-                if (open >= OPEN_AT_MOST) {
-                    refuse(TOO_MANY);
-                    return;
-                }
+            int nots = 0;
+            while (now() == W_NOT && open + nots < OPEN_AT_MOST) {
+                nots++;
                 next++;
-                if (negated) {
-                    readSingle(open + 1);
-                    law.emit(NEGATE, 0);
-                } else {
-                    readCondition(open + 1);
-                    take(')');
-                }
-                return;
             }
-            readSum();
-            int sign = now();
-            if (sign != '<' && sign != '=' && sign != '>') {
-                refuse(MISPLACED);
-                return;
+            if (now() != W_NOT && now() != '(') {
+                readSum();
+                int sign = now();
+                take(sign == '<' || sign == '>' ? sign : '=');
+                readSum();
+                law.emit(sign == '<' ? BELOW : sign == '>' ? ABOVE : ALIKE, 0);
+            } else if (open + nots >= OPEN_AT_MOST) {
+                refuse(TOO_MANY);
+            } else {
+                next++;
+                readCondition(open + nots + 1);
+                take(')');
             }
-            take(sign);
-            readSum();
-            law.emit(sign == '<' ? BELOW : sign == '=' ? ALIKE : ABOVE, 0);
+            for (int i = 0; i < nots; i++) {
+                law.emit(NEGATE, 0);
+            }
         }
 
         private void readSum() {
@@ -1654,20 +1650,20 @@ public final class GravyBoats {
 
         /** The most worth, or the first hold's set: sets come from the least on, so that the first one stays. */
         int stowing(Rows jars, int c, int d, boolean firstHold) {
-            int sets = 1 << Math.min(JARS, jars.size);
             int most = 0;
             int first = 0;
-            weights[0] = 0;
-            worths[0] = 0;
-            for (int set = 1; set < sets && set < weights.length && set < worths.length; set++) {
-                int jar = Integer.numberOfTrailingZeros(set);
-                weights[set] = weights[set & set - 1] + jars.cell(jar, 0);
-                worths[set] = worths[set & set - 1] + jars.cell(jar, 1);
-                if (worths[set] > most) {
-                    int part = partFor(set, c, d);
-                    most = part == NONE ? most : worths[set];
-                    first = part == NONE ? first : part;
+            int sets = 1;
+            for (int jar = 0; jar < jars.size && 2 * sets <= weights.length; jar++) {
+                for (int set = sets; set < 2 * sets; set++) {
+                    weights[set] = weights[set - sets] + jars.cell(jar, 0);
+                    worths[set] = worths[set - sets] + jars.cell(jar, 1);
+                    int part = worths[set] > most ? partFor(set, c, d) : NONE;
+                    if (part != NONE) {
+                        most = worths[set];
+                        first = part;
+                    }
                 }
+                sets *= 2;
             }
             return firstHold ? first : most;
         }

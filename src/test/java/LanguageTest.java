@@ -10,7 +10,7 @@ final class LanguageTest {
         "double", "float", "protected", "native", "volatile", "transient", "hashCode", "toString", "default ->", "->", "::",
         "@", "Object", "Thread", "random", "Exact", "values\\(\\)", "getClass", "var"};
     private static final String LIBRARY = "\\b(System|Math|Integer|Long|String|StringBuilder|Arrays|List|ArrayList)\\.(\\w+)";
-    private static final String ALLOWED = "System.arraycopy|Math.(max|min|abs)|Integer.(bitCount|signum|numberOfTrailingZeros)";
+    private static final String ALLOWED = "System.arraycopy|Math.(max|min|abs)|Integer.bitCount";
 
     public static void main(String[] args) throws IOException {
         Check check = new Check("LanguageTest");
