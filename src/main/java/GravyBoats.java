@@ -693,11 +693,10 @@ public final class GravyBoats {
             }
         }
 
-        /** The line's word, where its E began and where its B begins; all that comes from there on is B. */
-        void addLine(int word, int from, int middle) {
+        /** A line ends here: its word, and where its B begins; its E begins where the line before it ended. */
+        void addLine(int word, int middle) {
             if (within(lines, 0, LINES - 1)) {
                 asked[lines] = word;
-                bounds[2 * lines] = from;
                 bounds[2 * lines + 1] = middle;
                 bounds[2 * lines + 2] = steps;
                 lines++;
@@ -1069,7 +1068,6 @@ public final class GravyBoats {
             law.clear();
             for (int i = 0; i <= LINES && fault == 0 && now() != END; i++) {
                 int word = now() - W_PASSES;
-                int from = law.steps;
                 openLine(i, within(now(), W_PASSES, W_SPILLS));
                 readSum();
                 int middle = law.steps;
@@ -1078,7 +1076,7 @@ public final class GravyBoats {
                     readCondition(0);
                 }
                 take(';');
-                law.addLine(word, from, middle);
+                law.addLine(word, middle);
             }
         }
 

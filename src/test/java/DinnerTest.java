@@ -155,6 +155,10 @@ final class DinnerTest {
         line(x, 1, 0, 3, 0, 11);
         line(x, 2, 0, 2, 0, 20);
         CHECK.due("away from its shore", x.act(0, 0, 4), true);
+        GravyBoats y = new GravyBoats();
+        y.boat(1, 9, 1, 0);
+        CHECK.due("to SHORE 0", y.act(0, 0, 0), true);
+        CHECK.due("got there", y.got(0, 1), 9);
         x.set(5, 0, 7);
         x.set(3, 4, 1);
         x.set(2, 4, 5);
@@ -405,6 +409,11 @@ final class DinnerTest {
         Check.tell(x, 2, late + "at 54 talk 5;");
         CHECK.due("too late", x.brings(1, 1), -1);
         CHECK.due("too late", x.brings(1, 0), -1);
+        Check.tell(x, 2, "");
+        for (int i = 3; i < 8; i++) {
+            x.boat(0, 10 + i, 10, 1);
+        }
+        CHECK.due("the eighth", x.brings(7, 0), 17);
     }
 
     private static void undoing() {
@@ -541,7 +550,7 @@ final class DinnerTest {
         x.letter(1, v);
         x.letter(1, v);
         x.convoy(v, v % 2);
-        x.flag(v);
+        x.flag(8 - 4 * v);
         x.gives(v, v + 1);
         x.cloth(v, v + 9);
         x.report(v, v + 7);
@@ -565,7 +574,7 @@ final class DinnerTest {
             rows.append(x.book(i, 0)).append(' ').append(x.book(i, 1)).append(' ').append(x.book(i, 3)).append(' ');
         }
         for (int i = 0; i < 3; i++) {
-            rows.append(x.both(i)).append(' ').append(x.meets(i)).append(' ').append(x.spoons(7, i)).append(' ');
+            rows.append(x.both(i)).append(' ').append(x.meets(i)).append(' ').append(x.spoons(0, i)).append(' ');
             rows.append(x.way(i)).append(' ').append(x.free(95, i)).append(' ').append(x.sprouts(i)).append(' ');
             rows.append(x.stowed(9, 0, i)).append(' ').append(x.stained(i)).append(' ').append(x.game(i)).append(' ');
         }

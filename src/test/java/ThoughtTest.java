@@ -574,6 +574,8 @@ final class ThoughtTest {
         CHECK.due("all in the first", x.stowed(99, 0, 1), 511);
         CHECK.due("all in the second", x.stowed(99, 99, 1), 0);
         CHECK.due("c -1", x.stowed(-1, 0, 0), NONE);
+        CHECK.due("c 100", x.stowed(100, 0, 0), NONE);
+        CHECK.due("d -1", x.stowed(0, -1, 0), NONE);
         CHECK.due("d 100", x.stowed(0, 100, 0), NONE);
         CHECK.due("what 2", x.stowed(0, 0, 2), NONE);
         CHECK.due("what -1", x.stowed(0, 0, -1), NONE);
@@ -638,6 +640,10 @@ final class ThoughtTest {
         CHECK.due("stained -1", x.stained(-1), NONE);
         x.set(4, 11, 999);
         CHECK.due("stained at the shore", x.stained(2), 11);
+        CHECK.due("stained 3", x.stained(3), NONE);
+        CHECK.due("hands from 12", x.hands(12, 3, 0), NONE);
+        CHECK.due("hands to -1", x.hands(3, -1, 1), NONE);
+        CHECK.due("all candles", x.candles(4095, 0, 1), 0);
         CHECK.due("game 2", x.game(2), NONE);
         CHECK.due("game -1", x.game(-1), NONE);
         CHECK.due("all of it", x.game(1), 999);
