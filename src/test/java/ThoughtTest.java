@@ -27,6 +27,7 @@ final class ThoughtTest {
         candles();
         treaty();
         lettersEdges();
+        fullLetters();
         convoyEdges();
         flagEdges();
         givesEdges();
@@ -161,6 +162,31 @@ final class ThoughtTest {
         CHECK.due("JOINT then", x.both(2), 1);
         CHECK.due("again", x.letter(1, 0), 1);
         CHECK.due("SAME then", x.both(0), 1);
+    }
+
+    private static void fullLetters() {
+        GravyBoats x = new GravyBoats();
+        for (int i = 0; i < 12; i++) {
+            x.letter(0, i % 10);
+            x.letter(1, i % 10);
+        }
+        CHECK.due("SAME of two alike", x.both(0), 12);
+        CHECK.due("CHANGES of two alike", x.both(1), 0);
+        CHECK.due("JOINT of two alike", x.both(2), 12);
+        x.letter(0, NONE);
+        for (int i = 0; i < 12; i++) {
+            x.letter(0, (i + 1) % 10);
+        }
+        CHECK.due("SAME, one word later", x.both(0), 11);
+        CHECK.due("CHANGES, one word later", x.both(1), 2);
+        CHECK.due("JOINT, one word later", x.both(2), 13);
+        x.letter(1, NONE);
+        for (int i = 0; i < 12; i++) {
+            x.letter(1, 0);
+        }
+        CHECK.due("SAME, one word alike", x.both(0), 1);
+        CHECK.due("CHANGES, one word alike", x.both(1), 11);
+        CHECK.due("JOINT, one word alike", x.both(2), 23);
     }
 
     // ---- promise 20
