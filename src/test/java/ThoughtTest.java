@@ -541,6 +541,9 @@ final class ThoughtTest {
         CHECK.due("nothing", x.report(NONE, 0), 0);
         CHECK.due("nobody", x.sprouts(0), 0);
         CHECK.due("nobody", x.sprouts(1), 0);
+        CHECK.due("from none on", x.report(0, 5), 1);
+        CHECK.due("the least is 0", x.sprouts(0), 0);
+        CHECK.due("one says so", x.sprouts(1), 1);
     }
 
     // ---- promises 33, 34
