@@ -188,7 +188,7 @@ public final class GravyBoats {
         } else if (what == POURING) {
             course.pourByHand(who, v);
         } else if (what == SALTING) {
-            course.saltByHand(who);
+            course.salt(who);
         } else {
             world.table.talk = v;
         }
@@ -920,7 +920,8 @@ public final class GravyBoats {
             write(POURED, boat, much);
         }
 
-        void saltByHand(int seat) {
+        /** By hand or by DINNER, which may salt a clean SEAT: only lines of pours and spills must be above 0. */
+        void salt(int seat) {
             write(SALTED, seat, table.ofSeat(STAIN, seat));
             table.putSeat(STAIN, seat, 0);
         }
@@ -940,7 +941,7 @@ public final class GravyBoats {
             } else if (word == W_TALK) {
                 table.talk = first;
             } else if (word == W_SALT) {
-                table.putSeat(STAIN, first, 0);
+                salt(first);
             } else if (word == W_FILL) {
                 table.putBoat(FULL, first, second);
                 table.putBoat(SKIN, first, 0);

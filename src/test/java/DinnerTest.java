@@ -14,6 +14,7 @@ final class DinnerTest {
         landing();
         skin();
         courses();
+        saltOfDinner();
         bookIsFull();
         inThought();
         undoing();
@@ -327,7 +328,8 @@ final class DinnerTest {
         CHECK.due("nothing", x.minutes(1), 0);
         CHECK.due("the later line", x.look(3), 4);
         CHECK.due("salted", x.seat(7, 4), 0);
-        CHECK.due("no line of it", x.look(5), 1);
+        CHECK.due("a line of it", x.look(5), 2);
+        line(x, 1, 1, 4, 7, 50);
         x.minutes(1);
         boat(x, 1, 44, 0, 0, 1, 0);
         CHECK.due("talk", x.look(2), 0);
@@ -337,6 +339,39 @@ final class DinnerTest {
         CHECK.due("lands again", x.minutes(10), 2);
         boat(x, 0, 0, 0, 0, 0, 2);
         CHECK.due("got", x.got(11, 0), 30 + 43);
+    }
+
+    private static void saltOfDinner() {
+        GravyBoats x = withLaw("passes 1000;pours 2;spills 0;");
+        x.boat(0, 30, 3, 1);
+        x.set(4, 0, 999);
+        x.set(4, 11, 1);
+        Check.tell(x, 2, "at 1 salt 11;at 1 talk 1;at 1 salt 0;at 1 salt 0;at 1 salt 5;at 0 salt 4;at 2 salt 11;");
+        CHECK.due("salted in thought", x.goes(3, 2), 0);
+        CHECK.due("no line in thought", x.look(5), 0);
+        x.minutes(1);
+        CHECK.due("salted, then poured", x.look(5), 2);
+        line(x, 0, 0, 4, 4, 0);
+        line(x, 1, 0, 0, 0, 2);
+        x.minutes(1);
+        CHECK.due("salted though one speaks", x.look(5), 6);
+        line(x, 2, 1, 4, 11, 1);
+        line(x, 3, 1, 4, 0, 999);
+        line(x, 4, 1, 4, 0, 0);
+        line(x, 5, 1, 4, 5, 0);
+        CHECK.due("two minutes can be undone", x.look(11), 2);
+        CHECK.due("undo", x.undo(), true);
+        CHECK.due("its lines go with the minute", x.look(5), 2);
+        CHECK.due("the stain is back", x.seat(0, 4), 999);
+        CHECK.due("by hand", x.act(2, 0, 0), true);
+        line(x, 2, 1, 4, 0, 999);
+        CHECK.due("by hand what is clean", x.act(2, 0, 0), false);
+        x.minutes(1);
+        line(x, 4, 1, 4, 0, 0);
+        Check.tell(x, 2, "");
+        x.minutes(1);
+        CHECK.due("no salt told any more", x.look(5), 8);
+        line(x, 7, 2, 0, 0, 2);
     }
 
     private static void bookIsFull() {
@@ -360,6 +395,18 @@ final class DinnerTest {
         CHECK.due("back before the last lines", x.look(5), 144);
         x.act(1, 7, 9);
         line(x, 144, 18, 0, 7, 9);
+        GravyBoats y = new GravyBoats();
+        for (int i = 0; i < 10; i++) {
+            StringBuilder salts = new StringBuilder();
+            for (int seat = 0; seat < 16; seat++) {
+                salts.append("at ").append(i).append(" salt ").append(seat % 12).append(';');
+            }
+            y.set(4, 5, 100 + i);
+            Check.tell(y, 2, salts.toString());
+            y.minutes(1);
+        }
+        CHECK.due("150 saltings", y.look(5), 150);
+        line(y, 149, 9, 4, 5, 109);
     }
 
     private static void inThought() {

@@ -170,7 +170,7 @@ final class NaiveDinner implements Cloneable {
                 switch (w[2]) {
                     case "fog": fog = a; break;
                     case "talk": talk = a; break;
-                    case "salt": seats[a][4] = 0; break;
+                    case "salt": line(4, a, seats[a][4]); seats[a][4] = 0; break;
                     case "fill": boats.get(a)[1] = Integer.parseInt(w[4]); boats.get(a)[4] = 0; break;
                     default: boats.get(a)[3] ^= 1;
                 }
