@@ -1,6 +1,9 @@
 import java.util.Random;
 
-/** Promises 2 to 16 and 36 to 38: random dinners go as they go in NaiveDinner, call by call. */
+/**
+ * Promises 2 to 16 and 36 to 38: random dinners go as they go in NaiveDinner, call by call; no object is called more than
+ * 512 times, so each dinner is looked at here and there.
+ */
 final class AgainstNaiveTest {
     private static final String[] UNITS = {"kind", "full", "skin", "steady", "thirst", "love", "pirate", "seat",
         "head", "fog", "stain", "minute"};
@@ -12,7 +15,7 @@ final class AgainstNaiveTest {
     private GravyBoats x = new GravyBoats();
     private NaiveDinner y = new NaiveDinner();
     private NaiveDinner image;
-    private String tape = "";
+    private int left = 512;
 
     AgainstNaiveTest(long seed, Check check) {
         this.random = new Random(seed);
@@ -21,11 +24,15 @@ final class AgainstNaiveTest {
 
     public static void main(String[] args) {
         Check check = new Check("AgainstNaiveTest");
-        for (int seed = 0; seed < 250; seed++) {
+        for (int seed = 0; seed < 3000; seed++) {
             AgainstNaiveTest test = new AgainstNaiveTest(seed, check);
-            for (int i = 0; i < 120; i++) {
+            for (int last = 30 + test.below(400); test.left > last;) {
                 test.call();
-                test.compare(seed, i);
+                test.compare(seed);
+                test.compare(seed);
+            }
+            while (test.left > 0) {
+                test.compare(seed);
             }
         }
         check.close();
@@ -45,6 +52,7 @@ final class AgainstNaiveTest {
     }
 
     private void call() {
+        left--;
         int kind = below(30);
         if (kind < 4) {
             int a = about(0, 4), b = about(0, 99), c = about(0, 11), d = about(0, 1);
@@ -75,6 +83,7 @@ final class AgainstNaiveTest {
             check.due("goes " + n + " " + what, x.goes(n, what), y.goes(n, what));
             int b = about(0, 7);
             check.due("brings " + b, x.brings(b, what), y.brings(b, what));
+            left--;
         }
     }
 
@@ -107,6 +116,8 @@ final class AgainstNaiveTest {
         if (text.length() > 400) {
             text.setLength(400);
         }
+        // the feeds, end, text and what is asked below, but for the one that is counted already
+        left -= (text.length() + 19) / 20 + 4;
         check.due("text " + k + ": " + text, Check.tell(x, k, text.toString()), y.text(k, text.toString()));
         check.due("fault(0) of " + text, x.fault(0), y.faultCode);
         check.due("fault(1) of " + text, x.fault(1), y.faultPlace);
@@ -170,35 +181,43 @@ final class AgainstNaiveTest {
         return sum() + "<=>".charAt(below(3)) + sum();
     }
 
-    private void compare(int seed, int i) {
-        String where = "seed " + seed + " call " + i + " ";
+    private void compare(int seed) {
+        left--;
+        String where = "seed " + seed + ", " + left + " calls left, ";
+        switch (below(5)) {
+            case 0:
+                compareLook(where, below(13));
+                break;
+            case 1:
+                int s = below(12);
+                int of = below(6);
+                check.due(where + "seat " + s + " " + of, x.seat(s, of), of == 5 ? y.reach(s) : y.seats[s][of]);
+                break;
+            case 2:
+                compareBoat(where, below(Math.min(9, y.boats.size() + 1)), below(9));
+                break;
+            case 3:
+                int kind = below(5);
+                int shore = below(2);
+                check.due(where + "got " + shore, x.got(11 * shore, kind), y.got[shore][kind]);
+                break;
+            default:
+                int line = below(2) == 0 ? y.book.size() - below(6) : below(151);
+                int what = below(4);
+                boolean there = line >= 0 && line < y.book.size();
+                check.due(where + "book " + line + " " + what, x.book(line, what), there ? y.book.get(line)[what] : -1);
+        }
+    }
+
+    private void compareLook(String where, int what) {
         int[] looks = {y.boats.size(), y.drunk, y.talk, y.fog, y.minute, y.book.size(), y.state, y.lines(0).size(),
             y.lines(1).size(), y.lines(2).size(), y.lines(3).size(), y.past.size(), -1};
-        for (int what = 0; what < looks.length; what++) {
-            check.due(where + "look " + what, x.look(what), looks[what]);
-        }
-        for (int s = 0; s < 12; s++) {
-            for (int what = 0; what < 5; what++) {
-                check.due(where + "seat " + s + " " + what, x.seat(s, what), y.seats[s][what]);
-            }
-            check.due(where + "reach " + s, x.seat(s, 5), y.reach(s));
-        }
+        check.due(where + "look " + what, x.look(what), looks[what]);
+    }
+
+    private void compareBoat(String where, int boat, int what) {
         String[] words = {"passes", "pours", "spills"};
-        for (int b = 0; b < 8; b++) {
-            for (int what = 0; what < 9; what++) {
-                int want = b >= y.boats.size() ? -1 : what < 6 ? y.boats.get(b)[what] : y.told(b, words[what - 6]);
-                check.due(where + "of " + b + " " + what, x.of(b, what), want);
-            }
-        }
-        for (int kind = 0; kind < 5; kind++) {
-            check.due(where + "got 0", x.got(0, kind), y.got[0][kind]);
-            check.due(where + "got 11", x.got(11, kind), y.got[1][kind]);
-        }
-        for (int line = 0; line < 151; line++) {
-            for (int what = 0; what < 4; what++) {
-                int want = line < y.book.size() ? y.book.get(line)[what] : -1;
-                check.due(where + "book " + line + " " + what, x.book(line, what), want);
-            }
-        }
+        int want = boat >= y.boats.size() ? -1 : what < 6 ? y.boats.get(boat)[what] : y.told(boat, words[what - 6]);
+        check.due(where + "of " + boat + " " + what, x.of(boat, what), want);
     }
 }

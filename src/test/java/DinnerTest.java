@@ -555,6 +555,12 @@ final class DinnerTest {
         x.minutes(1);
         CHECK.due("none", x.image(false), false);
         CHECK.due("forgets nothing", x.look(11), 1);
+        goneBack(1);
+        goneBack(2);
+    }
+
+    private static void goneBack(int times) {
+        GravyBoats x = new GravyBoats();
         x.boat(0, 60, 0, 1);
         tellAll(x, 1);
         x.minutes(2);
@@ -562,7 +568,7 @@ final class DinnerTest {
         CHECK.due("taken", x.image(true), true);
         CHECK.due("forgets nothing", x.look(11), 3);
         long[] before = all(x);
-        for (int time = 0; time < 2; time++) {
+        for (int time = 0; time < times; time++) {
             x.undo();
             x.undo();
             x.act(1, 0, 9);
@@ -573,14 +579,15 @@ final class DinnerTest {
             CHECK.due("a fault", Check.outcome(x, 0, "passes"), -10006);
             Check.put(x, "abc");
             CHECK.due("gone back", x.image(false), true);
-            long[] then = all(x);
-            for (int i = 0; i < before.length; i++) {
-                CHECK.due("as it was: " + i, then[i], before[i]);
-            }
             CHECK.due("nothing can be undone", x.look(11), 0);
             CHECK.due("fault() is not of it", x.fault(0), 1);
             CHECK.due("the TAPE is not of it", x.end(3), true);
             x.end(0);
+        }
+        long[] then = all(x);
+        CHECK.due("as much", then.length, before.length);
+        for (int i = 0; i < before.length && i < then.length; i++) {
+            CHECK.due("as it was: " + i, then[i], before[i]);
         }
     }
 
@@ -611,13 +618,16 @@ final class DinnerTest {
         }
         for (int i = 0; i < 12; i++) {
             for (int what = 0; what < 6; what++) {
-                rows.append(x.seat(i, what)).append(' ').append(x.goes(20, what)).append(' ');
+                rows.append(x.seat(i, what)).append(' ');
             }
+        }
+        for (int what = 0; what < 4; what++) {
+            rows.append(x.goes(20, what)).append(' ');
         }
         for (int i = 0; i < 9; i++) {
             rows.append(x.of(0, i)).append(' ').append(x.of(1, i)).append(' ').append(x.brings(0, i)).append(' ');
         }
-        for (int i = 0; i < 160; i++) {
+        for (int i = 0; i <= x.look(5); i++) {
             rows.append(x.book(i, 0)).append(' ').append(x.book(i, 1)).append(' ').append(x.book(i, 3)).append(' ');
         }
         for (int i = 0; i < 3; i++) {

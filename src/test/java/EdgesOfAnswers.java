@@ -294,6 +294,9 @@ final class EdgesOfAnswers extends Edges {
         });
         edge(11, "A = C {and C}.", () -> {
             so(true, "1=1 and 1=1");
+            so(true, "1<2 and 1=1 and 2>1");
+            so(true, "not 1=2 and 1=1");
+            so(true, "1<2 and not 1>2");
             so(false, "1=1 and 1=2");
             so(false, "1=2 and 1=1");
             so(false, "1=1 and 1=1 and 1=2");
@@ -336,6 +339,8 @@ final class EdgesOfAnswers extends Edges {
         });
         edge(11, "T = U {* U | / NUMBER}.", () -> {
             tells(30, 6, "passes 7/2*10;");
+            tells(7, 6, "passes 7/1;");
+            tells(17, 6, "passes 10+7/1;");
             tells(35, 6, "passes 7*10/2;");
             tells(3, 6, "passes 30/3/3;");
             tells(0, 6, "passes 7*0;");

@@ -19,6 +19,7 @@ final class EdgesOfMinutes extends Edges {
         spilt();
         stays();
         lands();
+        drunk();
         again();
         bookOfPours();
         bookOfLandings();
@@ -598,6 +599,21 @@ final class EdgesOfMinutes extends Edges {
             is(8 * 55, landed);
             is(8 * 28 * 99, x.got(11, 1));
             is(8 * 27 * 99, x.got(0, 1));
+        });
+    }
+
+    private void drunk() {
+        edge(6, "DRUNK (an int, 0 at first).", () -> {
+            GravyBoats x = lawful("passes 1000;pours 99;spills 0;");
+            for (int i = 0; i < 8; i++) {
+                x.boat(1, 0, 10, 1);
+            }
+            lines(x, 1, 8, "boat 0 again 99;boat 1 again 99;boat 2 again 99;boat 3 again 99;boat 4 again 99;"
+                    + "boat 5 again 99;boat 6 again 99;boat 7 again 99;");
+            for (int i = 0; i < 10; i++) {
+                x.minutes(60);
+            }
+            is(8 * 55 * 99, x.look(1));
         });
     }
 

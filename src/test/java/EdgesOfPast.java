@@ -13,6 +13,7 @@ final class EdgesOfPast extends Edges {
         keeps();
         image();
         imageOfAll();
+        imageOfBook();
         notOfImage();
         look();
         looksAtTable();
@@ -34,27 +35,21 @@ final class EdgesOfPast extends Edges {
         });
         edge(36, "UNDO: the latest MINUTE, PASSING, POURING, SALTING, SPEAKING not undone yet goes back (STATE, THE BOOK, too)",
             () -> {
-                GravyBoats x = busy();
-                String[] was = new String[6];
-                was[0] = table(x);
-                for (int i = 1; i < 6; i++) {
-                    deed(x, i - 1);
-                    was[i] = table(x);
-                    is(i, x.look(11));
-                    yes(!was[i].equals(was[i - 1]));
-                }
-                GravyBoats y = busy();
-                for (int i = 0; i < 5; i++) {
-                    deed(y, i);
-                }
-                for (int i = 4; i >= 0; i--) {
-                    yes(y.undo());
-                    is(i, y.look(11));
-                    if (i % 2 == 0) {
-                        yes(was[i].equals(table(y)));
+                for (int left = 4; left >= 0; left--) {
+                    GravyBoats x = done(5);
+                    is(5, x.look(11));
+                    for (int i = 5; i > left; i--) {
+                        yes(x.undo());
                     }
+                    is(left, x.look(11));
+                    yes(table(done(left)).equals(table(x)));
+                    no(table(done(left + 1)).equals(table(x)));
                 }
-                no(y.undo());
+                GravyBoats x = done(5);
+                for (int i = 0; i < 5; i++) {
+                    yes(x.undo());
+                }
+                no(x.undo());
             });
         edge(36, "UNDO: the latest MINUTE, PASSING, POURING, SALTING, SPEAKING not undone yet goes back (STATE, THE BOOK, too)",
             () -> {
@@ -98,6 +93,15 @@ final class EdgesOfPast extends Edges {
         x.set(2, 5, -4);
         lines(x, 2, 2, "at 0 fog 3;at 1 fill 1 60;");
         x.state(12345);
+        return x;
+    }
+
+    /** The first n deeds are done. */
+    private GravyBoats done(int n) {
+        GravyBoats x = busy();
+        for (int i = 0; i < n; i++) {
+            deed(x, i);
+        }
         return x;
     }
 
@@ -408,6 +412,30 @@ final class EdgesOfPast extends Edges {
             is(2, x.look(5));
             line(x, 0, 0, 0, 0, 1);
             line(x, 1, 0, 0, 0, 2);
+        });
+    }
+
+    private void imageOfBook() {
+        edge(37, "THE BOOK (150 lines; no more then)", () -> {
+            GravyBoats x = lawful("passes 0;pours 1;");
+            for (int i = 0; i < 8; i++) {
+                x.boat(0, 99, 5, 1);
+            }
+            x.minutes(18);
+            x.image(true);
+            x.minutes(2);
+            is(150, x.look(5));
+            x.image(false);
+            is(144, x.look(5));
+            none(x.book(144, 0));
+            x.act(0, 3, 6);
+            line(x, 144, 18, 3, 3, 6);
+            x.minutes(2);
+            x.image(true);
+            x.minutes(2);
+            x.image(false);
+            is(150, x.look(5));
+            line(x, 144, 18, 3, 3, 6);
         });
     }
 

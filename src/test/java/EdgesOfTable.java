@@ -446,10 +446,11 @@ final class EdgesOfTable extends Edges {
             is(5, x.of(0, 2));
             yes(x.act(0, 0, 6));
             is(6, x.of(0, 2));
-            no(x.act(0, 2, 6));
-            no(x.act(0, -1, 6));
-            no(x.act(0, MIN, 6));
-            no(x.act(0, MAX, 6));
+            for (int who : new int[] {2, 3, 8, -1, MIN, MAX}) {
+                for (int seat = 0; seat < 12; seat++) {
+                    no(x.act(0, who, seat));
+                }
+            }
         });
         edge(5, "By hand: to PASS a BOAT to a SEAT that its own reaches (REACH", () -> {
             GravyBoats x = boats(1);
@@ -703,6 +704,20 @@ final class EdgesOfTable extends Edges {
             yes(before.equals(table(x)));
             is(0, x.look(11));
             no(x.undo());
+        });
+        edge(5, "BOATS 0 .. 7 as they come: KIND", () -> {
+            GravyBoats x = new GravyBoats();
+            for (int n = 0; n <= 8; n++) {
+                for (int seat = 0; seat < 12; seat++) {
+                    no(x.act(0, n, seat));
+                }
+                no(x.act(1, n, 1));
+                no(x.act(1, n, 0));
+                x.boat(0, 50, 5, 1);
+            }
+            yes(x.act(0, 7, 4));
+            yes(x.act(1, 7, 50));
+            yes(x.act(0, 0, 6));
         });
         edge(5, "THE BOOK (150 lines; no more then)", () -> {
             GravyBoats x = new GravyBoats();

@@ -176,6 +176,18 @@ final class EdgesOfTexts extends Edges {
                 ok(k, 16, times(16, LINES[k]));
             }
         });
+        edge(9, "The TAPE, empty then, is TEXT k", () -> {
+            // nothing of long ones that were told before is left
+            GravyBoats x = boats(1);
+            for (int i = 0; i < 5; i++) {
+                lines(x, 0, 1, "pours 1" + times(196, "+1") + ";");
+                is(99, x.of(0, 7));
+                none(Check.tell(x, 0, "pours 1" + times(196, "+1") + ","));
+            }
+            lines(x, 0, 2, "passes 3;pours 7 when 1=1;");
+            is(3, x.of(0, 6));
+            is(7, x.of(0, 7));
+        });
         edge(9, ": how many lines.", () -> {
             StringBuilder law = new StringBuilder("pours 1");
             while (law.length() < 399) {
@@ -233,6 +245,10 @@ final class EdgesOfTexts extends Edges {
     private void grammar() {
         edge(9, "0 THE LAW = {(passes | pours | spills) E [when B] ;}.", () -> {
             ok(0, 3, "passes 1;pours 2;spills 3;");
+            for (String unit : UNITS) {
+                bad(0, 1, 0, unit + " 1;");
+                bad(0, 1, 9, "passes 1;" + unit + " 1;");
+            }
             ok(0, 2, "pours 1 when 1=1;pours 2;");
             bad(0, 1, 0, "when 1=1;");
             bad(0, 1, 0, "1;");
@@ -445,6 +461,9 @@ final class EdgesOfTexts extends Edges {
             ok(0, 1, "pours 0009;");
             bad(0, 1, 6, "pours 10000;");
             bad(0, 1, 6, "pours 00000;");
+            bad(0, 1, 0, "10000");
+            bad(0, 1, 8, "pours 1;10000");
+            bad(3, 1, 12, "seat 1 to 3;10000;");
             bad(0, 1, 6, "pours 99999999999999999999;");
             bad(0, 1, 8, "pours 1 2;");
             ok(1, 1, "boat 0001 again 0099;");

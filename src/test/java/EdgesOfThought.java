@@ -9,6 +9,8 @@ final class EdgesOfThought extends Edges {
         goes();
         goesHalves();
         goesSums();
+        goesAsMinutes();
+        goesAsTold();
         brings();
         bringsWhen();
         hands();
@@ -157,6 +159,102 @@ final class EdgesOfThought extends Edges {
         });
     }
 
+    /** A MINUTE in thought is held to the same bounds. */
+    private void goesAsMinutes() {
+        edge(15, "(b) Is TALK above 0, it is one less", () -> {
+            GravyBoats x = lawful(ON);
+            x.boat(0, 50, 10, 1);
+            x.act(3, 0, 9);
+            is(0, x.goes(9, 0));
+            is(41, x.goes(10, 0));
+            is(9, x.look(2));
+        });
+        edge(15, "and each BOAT has SKIN one more (9 at most)", () -> {
+            GravyBoats x = boats(3);
+            x.set(6, 0, 9);
+            x.set(6, 1, 8);
+            x.act(3, 0, 2);
+            is(9 + 9 + 1, x.goes(1, 3));
+            is(9 + 9 + 2, x.goes(2, 3));
+        });
+        edge(15, "(c) Else BOAT by BOAT not at the SHORE of its HEAD", () -> {
+            GravyBoats x = lawful("passes 0;pours 1;");
+            x.boat(0, 50, 10, 1);
+            x.act(0, 0, 11);
+            x.set(5, 0, 9);
+            is(0, x.goes(60, 1));
+            is(0, x.goes(60, 3));
+        });
+        edge(15, "pours is asked, so much, or FULL, if that is less, is poured: FULL less, DRUNK more", () -> {
+            GravyBoats x = lawful("passes 0;pours 7;");
+            x.boat(0, 20, 5, 1);
+            is(14, x.goes(2, 1));
+            is(20, x.goes(3, 1));
+            is(20, x.goes(60, 1));
+            x.set(3, 5, 1);
+            is(0, x.goes(60, 1));
+        });
+        edge(15, "his LOVE one more towards 0, if it is not 0)", () -> {
+            for (int love = -9; love <= 9; love++) {
+                GravyBoats x = lawful("passes 1000 when love=0;passes 0;pours 1;spills 0;");
+                x.boat(0, 50, 10, 1);
+                x.set(3, 10, 1);
+                x.set(2, 10, love);
+                int minutes = Math.max(1, Math.abs(love));
+                is(50 - minutes - (minutes - 1), x.goes(minutes, 0));
+                is(minutes > 1 ? 0 : 49, x.goes(Math.max(1, minutes - 1), 0));
+                is(love, x.seat(10, 2));
+            }
+        });
+        edge(15, "STAIN of that SEAT so much more (999 at most)", () -> {
+            GravyBoats x = lawful("passes 1000;pours 0;spills 1000 when seat=6;spills 0;");
+            x.boat(0, 9, 5, 1);
+            for (int stain : new int[] {995, 996, 997, 999}) {
+                x.set(4, 6, stain);
+                is(Math.min(999, stain + 3), x.goes(1, 2));
+            }
+        });
+        edge(15, "else it stays: SKIN one more (9 at most).", () -> {
+            GravyBoats x = lawful(STAY);
+            x.boat(0, 9, 5, 1);
+            is(8, x.goes(8, 3));
+            is(9, x.goes(9, 3));
+            is(9, x.goes(10, 3));
+            is(9, x.goes(60, 3));
+        });
+    }
+
+    private void goesAsTold() {
+        edge(15, "A MINUTE. (a) Line by line of DINNER for it", () -> {
+            GravyBoats x = lawful("passes 1000 when fog=5;passes 0;pours 0;spills 0;");
+            x.boat(0, 50, 10, 1);
+            x.set(4, 3, 999);
+            lines(x, 2, 5, "at 3 fog 4;at 3 fog 5;at 4 fog 0;at 2 salt 3;at 3 fill 0 99;");
+            is(0, x.goes(3, 0));
+            is(99, x.goes(4, 0));
+            is(999, x.goes(2, 2));
+            is(0, x.goes(3, 2));
+            is(0, x.look(5));
+            x.minutes(4);
+            is(99, x.goes(1, 0));
+        });
+        edge(15, "of several for one the last.)", () -> {
+            GravyBoats x = lawful(ON);
+            x.boat(0, 50, 10, 1);
+            lines(x, 1, 3, "boat 0 again 9;boat 0 again 3;boat 0 again 7;");
+            is(50, x.goes(11, 0));
+            is(57, x.goes(12, 0));
+        });
+        edge(15, "turn: HEAD is the other one.", () -> {
+            GravyBoats x = lawful(ON);
+            x.boat(0, 50, 5, 1);
+            lines(x, 2, 1, "at 0 turn 0;");
+            is(0, x.goes(4, 0));
+            is(50, x.goes(5, 0));
+            is(1, x.of(0, 3));
+        });
+    }
+
     // ---- promise 16
 
     private void brings() {
@@ -245,6 +343,26 @@ final class EdgesOfThought extends Edges {
             is(11, x.brings(0, 1));
             x.set(6, 0, 7);
             is(1, x.brings(0, 0));
+        });
+        edge(16, "GOT of that SHORE and its KIND FULL less SKIN (0 at least) more", () -> {
+            int[][] cases = {{9, 8, 1}, {9, 9, 0}, {8, 9, 0}, {0, 9, 0}, {0, 0, 0}, {99, 0, 99}};
+            for (int[] c : cases) {
+                GravyBoats x = lawful(ON);
+                x.boat(1, c[0], 10, 1);
+                x.set(6, 0, c[1]);
+                is(c[2], x.brings(0, 0));
+                is(1, x.brings(0, 1));
+                is(0, x.got(11, 1));
+            }
+        });
+        edge(16, "BOATS 0 .. 7 as they come: KIND", () -> {
+            GravyBoats x = lawful(ON);
+            for (int n = 0; n < 8; n++) {
+                none(x.brings(n, 0));
+                x.boat(0, 10 + n, 10, 1);
+                is(10 + n, x.brings(n, 0));
+            }
+            none(x.brings(8, 0));
         });
         edge(16, "by MINUTES as they go; behind how many.", () -> {
             GravyBoats x = lawful("passes 1000;pours 1 when minute>1;pours 0;spills 0;");

@@ -192,9 +192,9 @@ final class ThoughtTest {
     // ---- promise 20
 
     private static void candles() {
-        GravyBoats x = new GravyBoats();
         for (int r = 0; r < 12; r++) {
             for (int set = 0; set < 4096; set += 1 + below(40)) {
+                GravyBoats x = new GravyBoats();
                 int lit = lit(set, r);
                 int best = -1;
                 for (int more = 0; more < 4096; more++) {
@@ -207,6 +207,7 @@ final class ThoughtTest {
                 CHECK.due("candles " + set + " " + r + " 1", x.candles(set, r, 1), best);
             }
         }
+        GravyBoats x = new GravyBoats();
         CHECK.due("set -1", x.candles(-1, 1, 0), NONE);
         CHECK.due("set 4096", x.candles(4096, 1, 0), NONE);
         CHECK.due("r -1", x.candles(0, -1, 0), NONE);
@@ -354,13 +355,14 @@ final class ThoughtTest {
     // ---- promise 26
 
     private static void treaty() {
-        GravyBoats x = new GravyBoats();
         for (int n = 1; n <= 40; n++) {
+            GravyBoats x = new GravyBoats();
             for (int k = 1; k <= 9; k++) {
                 CHECK.due("treaty " + n + " " + k + " 0", x.treaty(n, k, 0), lumps(n, k, false));
                 CHECK.due("treaty " + n + " " + k + " 1", x.treaty(n, k, 1), lumps(n, k, true));
             }
         }
+        GravyBoats x = new GravyBoats();
         CHECK.due("n 0", x.treaty(0, 1, 0), NONE);
         CHECK.due("n 41", x.treaty(41, 1, 0), NONE);
         CHECK.due("k 0", x.treaty(1, 0, 0), NONE);
