@@ -1673,7 +1673,7 @@ public final class GravyBoats {
                 return NONE;
             }
             int part = 0;
-            for (int i = 0; i < weights.length; i++) {
+            for (int i = 0; i < weights.length && within(part, 0, weights.length - 1); i++) {
                 if (within(weights[part], weights[set] - d, c)) {
                     return part;
                 }

@@ -48,12 +48,10 @@ final class FaceTest {
     }
 
     private static void checkHidden(Check check, Class<?> type, TreeSet<String> names) {
+        checkFields(check, type);
         for (Field f : type.getDeclaredFields()) {
             boolean ok = Modifier.isPrivate(f.getModifiers()) || f.getName().equals("NONE");
             check.due("field " + f.getName() + " is private", ok, true);
-            if (Modifier.isStatic(f.getModifiers())) {
-                check.due("static " + f.getName() + " is final", Modifier.isFinal(f.getModifiers()), true);
-            }
         }
         for (Method m : type.getDeclaredMethods()) {
             if (Modifier.isPrivate(m.getModifiers()) && !m.isSynthetic()) {
@@ -64,11 +62,20 @@ final class FaceTest {
         for (Class<?> inner : type.getDeclaredClasses()) {
             check.due(inner + " is static", Modifier.isStatic(inner.getModifiers()), true);
             check.due(inner + " is not public", Modifier.isPublic(inner.getModifiers()), false);
+            checkFields(check, inner);
             for (Method m : inner.getDeclaredMethods()) {
                 check.due(inner + " method " + m.getName(), names.contains(m.getName()), false);
                 check.due("parameters of " + m.getName(), m.getParameterCount() <= 7, true);
             }
         }
+    }
+
+    private static void checkFields(Check check, Class<?> type) {
+        long fields = Arrays.stream(type.getDeclaredFields()).filter(f -> !Modifier.isStatic(f.getModifiers())).count();
+        check.due("fields of " + type + ": " + fields, fields <= 20, true);
+        boolean open = Arrays.stream(type.getDeclaredFields())
+                .anyMatch(f -> Modifier.isStatic(f.getModifiers()) && !Modifier.isFinal(f.getModifiers()));
+        check.due("static fields of " + type + " are final", open, false);
     }
 
     private static void laidTable(Check check) {
